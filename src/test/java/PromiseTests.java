@@ -292,6 +292,20 @@ public final class PromiseTests {
         is("small cab of the zone", x.told(x.order(0, 3, 1, 0), 1), 4);
     }
 
+    private static void offersByShortestWay() {
+        TaxiRank x = new TaxiRank();
+        int[] ways = {0, 30, 20, 10, 20, 9};
+        for (int zone = 1; zone < 6; zone++) {
+            x.setWay(zone, 0, ways[zone]);
+            addStarted(x, 4, zone);
+        }
+        int[] dueZones = {5, 3, 2, 4, 1};
+        for (int i = 0; i < dueZones.length; i++) {
+            int order = x.order(0, 3, 2, 0);
+            is("zone of the cab of order " + order, x.cab(x.told(order, 1), 1), dueZones[i]);
+        }
+    }
+
     private static void preorders() {
         TaxiRank x = new TaxiRank();
         addStarted(x, 1, 0);
@@ -631,6 +645,10 @@ public final class PromiseTests {
         y.tick(1);
         is("kept of -4", y.money(0, false), -3);
         is("due of -4", y.money(0, true), -1);
+        TaxiRank z = ride(100, 20, 120, 50, 1);
+        z.tick(120);
+        is("kept of 3749", z.money(0, false), 2999);
+        is("due of 3749", z.money(0, true), 750);
         fails(y, "money(-1, true)", INDEX, () -> y.money(-1, true));
         fails(y, "money(1, false)", INDEX, () -> y.money(1, false));
     }
@@ -698,6 +716,9 @@ public final class PromiseTests {
         addStarted(x, 4, 1);
         is("a shorter way from another zone", x.nearest(0, 2), 3);
         is("enough seats", x.nearest(2, 3), 10);
+        addStarted(x, 4, 2);
+        is("not the last one", x.nearest(0, 2), 3);
+        x.stop(2);
         x.stop(1);
         x.order(0, 0, 1, 0);
         is("an offer is made to it", x.nearest(0, 1), -1);
@@ -774,6 +795,7 @@ public final class PromiseTests {
         promise8Order();
         offersByDueTimeAndNumber();
         offersByQueueAndWay();
+        offersByShortestWay();
         preorders();
         part = "promise 9";
         promise9Accept();
