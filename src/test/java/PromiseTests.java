@@ -1,83 +1,5 @@
 /** For each promise of the document: ordinary inputs, the edges that it names, and wrong inputs. */
-public final class PromiseTests {
-    private interface Call {
-        long run();
-    }
-
-    private static final Class<? extends Exception> INDEX = IndexOutOfBoundsException.class;
-    private static final Class<? extends Exception> ARGUMENT = IllegalArgumentException.class;
-    private static final Class<? extends Exception> STATE = IllegalStateException.class;
-
-    private static int wrong = 0;
-    private static String part = "";
-
-    private static void is(String what, long got, long due) {
-        if (got != due) {
-            wrong++;
-            System.out.println(part + ": " + what + " answered " + got + ", due is " + due);
-        }
-    }
-
-    private static void isD(String what, double got, double due) {
-        if (Double.compare(got, due) != 0) {
-            wrong++;
-            System.out.println(part + ": " + what + " answered " + got + ", due is " + due);
-        }
-    }
-
-    /** The call throws just this exception and leaves the rank as it was. */
-    private static void fails(TaxiRank x, String what, Class<? extends Exception> due, Call call) {
-        long before = x.digest();
-        Class<?> got = null;
-        try {
-            call.run();
-        } catch (RuntimeException e) {
-            got = e.getClass();
-        }
-        if (got != due) {
-            wrong++;
-            System.out.println(part + ": " + what + " threw " + got + ", due is " + due);
-        }
-        is(what + " leaves the digest", x.digest(), before);
-    }
-
-    private static int addStarted(TaxiRank x, int seats, int zone) {
-        int cab = x.addCab(seats, zone);
-        x.start(cab);
-        return cab;
-    }
-
-    private static void isOrder(TaxiRank x, int order, int state, int cab, int begun, int done, int refusers) {
-        is("told(" + order + ", 0)", x.told(order, 0), state);
-        is("told(" + order + ", 1)", x.told(order, 1), cab);
-        is("told(" + order + ", 2)", x.told(order, 2), begun);
-        is("told(" + order + ", 3)", x.told(order, 3), done);
-        is("told(" + order + ", 4)", x.told(order, 4), refusers);
-    }
-
-    private static void isFare(TaxiRank x, int order, int base, int way, int waiting, int night) {
-        is("fare(" + order + ", 0)", x.fare(order, 0), base);
-        is("fare(" + order + ", 1)", x.fare(order, 1), way);
-        is("fare(" + order + ", 2)", x.fare(order, 2), waiting);
-        is("fare(" + order + ", 3)", x.fare(order, 3), night);
-        is("fare(" + order + ", 4)", x.fare(order, 4), base + way + waiting + night);
-    }
-
-    private static void isCab(TaxiRank x, int cab, int state, int zone, int seats, int order, int place) {
-        is("cab(" + cab + ", 0)", x.cab(cab, 0), state);
-        is("cab(" + cab + ", 1)", x.cab(cab, 1), zone);
-        is("cab(" + cab + ", 2)", x.cab(cab, 2), seats);
-        is("cab(" + cab + ", 3)", x.cab(cab, 3), order);
-        is("cab(" + cab + ", 4)", x.cab(cab, 4), place);
-    }
-
-    private static void isQueue(TaxiRank x, int zone, int... cabs) {
-        for (int place = 0; place < cabs.length; place++) {
-            is("queue(" + zone + ", " + place + ")", x.queue(zone, place), cabs[place]);
-        }
-        is("queue(" + zone + ", " + cabs.length + ")", x.queue(zone, cabs.length), -1);
-    }
-
+public final class PromiseTests extends Checks {
     private static void promise1NewObject() {
         TaxiRank x = new TaxiRank();
         is("now", x.now(), 0);
@@ -445,28 +367,6 @@ public final class PromiseTests {
         fails(x, "told(0, 5)", INDEX, () -> x.told(0, 5));
     }
 
-    /** A rank whose one cab begins a ride from zone 0 to 1 now, at this time, so many minutes late. */
-    private static TaxiRank ride(int base, int rate, int way, int begins, int late) {
-        TaxiRank x = new TaxiRank();
-        x.setRates(base, rate);
-        x.setWay(0, 1, way);
-        x.addCab(1, 0);
-        int ordered = begins - Math.max(late, 5);
-        pass(x, ordered);
-        x.order(0, 1, 1, begins - late);
-        pass(x, begins - 5 - ordered);
-        x.start(0);
-        x.accept(0);
-        x.tick(5);
-        return x;
-    }
-
-    private static void pass(TaxiRank x, int minutes) {
-        for (int left = minutes; left > 0; left -= 300) {
-            x.tick(Math.min(left, 300));
-        }
-    }
-
     private static void promise13Fare() {
         isFare(ride(4, 2, 10, 359, 0), 0, 4, 20, 0, 12);
         isFare(ride(4, 2, 10, 360, 0), 0, 4, 20, 0, 0);
@@ -777,65 +677,62 @@ public final class PromiseTests {
     }
 
     private static void runAll() {
-        part = "promise 1";
+        begin("promise 1");
         promise1NewObject();
-        part = "promise 2";
+        begin("promise 2");
         promise2SetWay();
-        part = "promise 3";
+        begin("promise 3");
         promise3AddCab();
-        part = "promise 4";
+        begin("promise 4");
         promise4Start();
-        part = "promise 5";
+        begin("promise 5");
         promise5Stop();
-        part = "promise 6";
+        begin("promise 6");
         promise6SetRates();
-        part = "promise 7";
+        begin("promise 7");
         promise7Cab();
-        part = "promise 8";
+        begin("promise 8");
         promise8Order();
         offersByDueTimeAndNumber();
         offersByQueueAndWay();
         offersByShortestWay();
         preorders();
-        part = "promise 9";
+        begin("promise 9");
         promise9Accept();
-        part = "promise 10";
+        begin("promise 10");
         promise10Refuse();
-        part = "promise 11";
+        begin("promise 11");
         promise11Cancel();
         cancelWhileTheCabWaits();
-        part = "promise 12";
+        begin("promise 12");
         promise12Told();
-        part = "promise 13";
+        begin("promise 13");
         promise13Fare();
-        part = "promise 14";
+        begin("promise 14");
         promise14Tick();
         offersGrowOld();
         arrivalsInOrderOfCabs();
         refusedAheadOfArrivals();
-        part = "promise 15";
+        begin("promise 15");
         promise15Now();
-        part = "promise 16";
+        begin("promise 16");
         promise16Queue();
-        part = "promise 17";
+        begin("promise 17");
         promise17Count();
-        part = "promise 18";
+        begin("promise 18");
         promise18Money();
-        part = "promise 19";
+        begin("promise 19");
         promise19Settle();
-        part = "promise 20";
+        begin("promise 20");
         promise20Lateness();
-        part = "promise 21";
+        begin("promise 21");
         promise21Nearest();
-        part = "promise 22";
+        begin("promise 22");
         promise22Digest();
     }
 
     public static void main(String[] args) {
         runAll();
-        System.out.println(wrong == 0 ? "all promises hold" : wrong + " answers are wrong");
-        if (wrong != 0) {
-            System.exit(1);
-        }
+        end("all promises hold");
     }
 }
