@@ -547,6 +547,24 @@ public final class TermsBoundaryTests extends Checks {
         isOrder(x, 0, 1, 2, -1, -1, 2);
     }
 
+    // What it is, "An object is used for at most 512 calls", for promises 4, 5 and 16: the last of them is answered
+    // as the first ones are.
+    static void fiveHundredAndTwelveCalls() {
+        TaxiRank x = rankWith(2);
+        for (int i = 0; i < 127; i++) {
+            is("stop(0)", x.stop(0), 0);
+            is("start(0)", x.start(0), 1);
+            is("stop(1)", x.stop(1), 0);
+            is("start(1)", x.start(1), 1);
+        }
+        TaxiRank y = rankWith(1);
+        y.order(0, 1, 1, 0);
+        for (int i = 3; i < 511; i++) {
+            is("the order", y.told(0, 1), 0);
+        }
+        is("the 512th call", y.accept(0), 5);
+    }
+
     // Terms, "If several exceptions apply, the one that is named first is thrown", for promises 4, 5, 9, 10 and 11:
     // what is not there is no matter of its state.
     static void noSuchCabOrOrderIsNamedFirst() {

@@ -332,9 +332,24 @@ public final class TimeMoneyBoundaryTests extends Checks {
             is("settle", x.settle(0), 0);
             is("its state", x.cab(0, 0), state);
         }
-        TaxiRank y = rankWithOrderThatIs(4);
-        y.stop(0);
-        is("settle of an OFF cab", y.settle(0), 7);
+        TaxiRank off = rankWithOrderThatIs(4);
+        off.stop(0);
+        is("settle of an OFF cab", off.settle(0), 7);
+        TaxiRank offered = rankWithOrderThatIs(4);
+        offered.order(1, 0, 1, 15);
+        is("settle with an offer", offered.settle(0), 7);
+        TaxiRank call = rankWithOrderThatIs(4);
+        call.order(1, 0, 1, 15);
+        call.accept(0);
+        is("settle on CALL", call.settle(0), 7);
+        is("on CALL still", call.cab(0, 0), 2);
+        TaxiRank busy = rankWithOrderThatIs(4);
+        busy.order(1, 0, 1, 15);
+        busy.accept(0);
+        busy.tick(5);
+        is("settle of a BUSY cab", busy.settle(0), 7);
+        is("DONE", busy.tick(10), 1);
+        isMoney(busy, 0, 48, 7);
     }
 
     // Promise 19, "Throws IndexOutOfBoundsException if there is no such cab".

@@ -81,19 +81,31 @@ abstract class Checks {
         }
     }
 
-    /** The call throws just this exception and leaves the rank as it was. */
+    /** The call throws just this exception, by a throw of its own, and leaves the rank as it was. */
     static void fails(TaxiRank x, String what, Class<? extends Exception> due, Call call) {
         long before = x.digest();
-        Class<?> got = null;
-        try {
-            call.run();
-        } catch (RuntimeException e) {
-            got = e.getClass();
-        }
-        if (got != due) {
+        RuntimeException got = thrownBy(call);
+        if (got == null || got.getClass() != due) {
             complain(what, "threw " + got, "" + due);
+        } else if (!isThrownByProgram(got)) {
+            complain(what, "let the library throw", "a throw of the program's own");
         }
         is(what + " leaves the digest", x.digest(), before);
+    }
+
+    private static RuntimeException thrownBy(Call call) {
+        try {
+            call.run();
+            return null;
+        } catch (RuntimeException e) {
+            return e;
+        }
+    }
+
+    /** A list's get throws IndexOutOfBoundsException too: only where it was made tells it from the program's. */
+    private static boolean isThrownByProgram(RuntimeException e) {
+        StackTraceElement[] trace = e.getStackTrace();
+        return trace.length > 0 && trace[0].getClassName().startsWith("TaxiRank");
     }
 
     /** The call fails so with each of the numbers, which stand for the ? of its name. */
