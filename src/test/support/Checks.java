@@ -75,6 +75,12 @@ abstract class Checks {
         }
     }
 
+    static void isText(String what, String got, String due) {
+        if (!got.equals(due)) {
+            complain(what, "answered " + got, due);
+        }
+    }
+
     static void isD(String what, double got, double due) {
         if (Double.compare(got, due) != 0) {
             complain(what, "answered " + got, "" + due);
